@@ -332,9 +332,12 @@ public final class MoreHands {
         }
 
         private void makeChanges() {
-            // A bound of 0 wanted ones is what PLAN, LEAST and MOST ask for whatever the rule says.
-            int goal = resting() ? Math.max(servers.up(), terms.bounded(0, time)) : wanted;
-            if (servers.bringTo(goal, time)) {
+            int up = servers.up();
+            // What 0 is bounded to is what PLAN, LEAST and MOST ask for, whatever the rule says.
+            int goal = resting() ? Math.max(up, terms.bounded(0, time)) : wanted;
+            int changed = goal > up ? servers.start(goal - up, time) : servers.shed(up - goal, time);
+            // With none OUT, wanting more of them changes nothing, and there is nothing to rest from.
+            if (changed > 0) {
                 latestChange = time;
             }
         }
@@ -458,18 +461,7 @@ public final class MoreHands {
             return count(SERVING) + count(DRAINING);
         }
 
-        // Answers whether a SERVER changed: with none OUT, wanting more of them changes nothing.
-        boolean bringTo(int goal, int tick) {
-            int up = up();
-            if (goal >= up) {
-                return startLowest(goal - up, tick) > 0;
-            }
-            int stopped = turnHighest(WARMING, OUT, up - goal, tick);
-            turnHighest(SERVING, DRAINING, up - goal - stopped, tick);
-            return true;
-        }
-
-        private int startLowest(int wish, int tick) {
+        int start(int wish, int tick) {
             int turned = 0;
             for (int s = 0; s < SERVERS && turned < wish; s++) {
                 if (states[s] == OUT) {
@@ -479,6 +471,11 @@ public final class MoreHands {
                 }
             }
             return turned;
+        }
+
+        int shed(int wish, int tick) {
+            int stopped = turnHighest(WARMING, OUT, wish, tick);
+            return stopped + turnHighest(SERVING, DRAINING, wish - stopped, tick);
         }
 
         private int turnHighest(int from, int to, int wish, int tick) {
