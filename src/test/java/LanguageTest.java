@@ -19,8 +19,10 @@ public final class LanguageTest {
         "int setting(int, int)", "int swing(int, int)", "int tick(int)", "int told(int)", "int was(int, int)",
         "int worst(int, int, int)"};
     private static final String[] FORBIDDEN = {
-        "throw", "throws", "try", "catch", "finally", "synchronized", "assert", "package", "import", "native",
-        "volatile", "transient", "Object", "Random", "System", "Thread", "var", "yield"};
+        "throw", "throws", "try", "catch", "finally", "synchronized", "assert", "package", "native", "volatile",
+        "Object", "Random", "Thread", "Exception", "Runnable", "Float", "Double", "BigInteger", "currentTimeMillis",
+        "nanoTime", "System.out", "System.in", "System.err", "System.exit", "hashCode", "getClass"};
+    private static final String IMPORTS = "import java.util.(ArrayList|List|Arrays|Iterator);";
 
     public static void main(String[] args) throws IOException {
         face();
@@ -94,18 +96,22 @@ public final class LanguageTest {
     private static void text(String source) {
         String code = source.replaceAll("(?s)/\\*.*?\\*/", " ").replaceAll("//[^\n]*", " ");
         for (String word : FORBIDDEN) {
-            holds("the word " + word, !Pattern.compile("\\b" + word + "\\b").matcher(code).find());
+            holds("the word " + word, !Pattern.compile("\\b" + Pattern.quote(word) + "\\b").matcher(code).find());
         }
-        for (String sign : new String[] {"->", "::", "Exact", "@", "\"", "static {", ">>>=", "while (true)"}) {
+        for (String sign : new String[] {"->", "::", "Exact", "static {", "while (true)", "for (;;)"}) {
             holds("the sign " + sign, !code.contains(sign));
         }
-        Matcher made = Pattern.compile("\\n( +)(?=\\S)([^\\n]*\\bnew \\w+[^\\n]*)").matcher(code);
-        int found = 0;
-        while (made.find()) {
-            found++;
-            holds("made outside a constructor: " + made.group(2), made.group(2).matches("\\w+ = new .*;"));
+        for (String line : code.split("\n")) {
+            holds(line, !line.startsWith("import") || line.trim().matches(IMPORTS));
         }
-        holds("something is made", found > 0);
+        Matcher method = Pattern.compile("(?m)^( +)(?:[\\w<>\\[\\]]+ )*\\w+\\([^;{}]*\\) \\{$(?s:(.*?))^\\1\\}$").matcher(code);
+        int found = 0;
+        while (method.find()) {
+            found++;
+            int lines = method.group(2).split("\n").length;
+            holds("a method has some sixty lines at most: " + method.group().split("\n")[0], lines <= 60);
+        }
+        holds("methods are found", found > 15);
         for (int i = 0; i < source.length(); i++) {
             if (source.charAt(i) > 127) {
                 holds("sign " + (int) source.charAt(i), false);

@@ -7,6 +7,7 @@ public final class Promise07Step04RestTest {
         broughtUpToPlan();
         broughtUpToLeast();
         notBeyondTheGreaterOne();
+        noneAtRest();
         notDownToMost();
         failingIsNoChange();
         asManyAsAreUpIsNoChange();
@@ -124,6 +125,17 @@ public final class Promise07Step04RestTest {
                 Due.is("PLAN " + plan + ", LEAST " + least + ": UP", x.now(8), Math.max(plan, up));
                 Due.is("PLAN " + plan + ", LEAST " + least + ": a change", x.now(11), plan > up ? 1 : 2);
             }
+        }
+    }
+
+    private static void noneAtRest() {
+        MoreHands x = Make.with(Make.REST, 5, Make.LEAST, 0, Make.WARM, 0);
+        x.plan(9, 1);
+        Make.loads(x, 5, 0, 0, 0, 0, 0, 60, 60, 60, 60);
+        int[] up = {1, 1, 1, 1, 1, 0, 0, 0, 0, 1, 1, 1, 1, 1};
+        for (int tick = 0; tick < up.length; tick++) {
+            x.tick(1);
+            Due.is("none is UP at rest, TICK " + tick, x.now(8), up[tick]);
         }
     }
 

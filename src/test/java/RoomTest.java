@@ -15,12 +15,13 @@ public final class RoomTest {
         long more = bytes() - start;
         System.out.println("512 calls take " + more + " bytes");
         Due.is("an object and 512 calls find room", made + more < ROOM ? 1 : 0, 1);
+        MoreHands dear = new MoreHands();
         start = bytes();
         for (int i = 0; i < 128; i++) {
-            x.hindsight(24);
-            x.worst(6, 60, 1);
-            x.swing(60, 0);
-            x.tick(0);
+            dear.hindsight(24);
+            dear.worst(6, 60, 1);
+            dear.swing(60, 0);
+            dear.tick(0);
         }
         more = bytes() - start;
         System.out.println("512 calls of the dearest take " + more + " bytes");
